@@ -358,9 +358,10 @@ public final class EpochDirectory {
     }
 
     /**
-     * Both lookups were accepted against one root, so at every prefix that they share their digests
-     * are the same, until their inputs differ. Nothing has the digest 0, which no input has: so
-     * neither can end with nothing before that.
+     * Both lookups were accepted against one root, so their digests are the same at every prefix
+     * down to the first inputs that differ. Nothing has the digest 0 and no input has it: where one
+     * ended with nothing the other would too, and both would say the same. So neither does so before
+     * the difference, and the inputs compared are always there.
      */
     private boolean takeOutFirstDifference() {
         int shared = Math.min(firstCheck.depth, secondCheck.depth);
@@ -742,7 +743,7 @@ public final class EpochDirectory {
 
         private int rootOf(Buffer buffer, int index) {
             int digest = buffer.words[1] == NOTHING
-                    ? keepNothing()
+                    ? 0
                     : keepInput(depth, HASH_LEAF, buffer.words[1], buffer.words[2]);
             for (int at = depth - 1; at >= 0; at--) {
                 int other = buffer.words[LOOKUP_START + at];
@@ -758,13 +759,6 @@ public final class EpochDirectory {
             inputs[INPUT * at + 1] = x;
             inputs[INPUT * at + 2] = y;
             return digester.digest(t, x, y);
-        }
-
-        private int keepNothing() {
-            for (int i = 0; i < INPUT; i++) {
-                inputs[INPUT * depth + i] = 0;
-            }
-            return 0;
         }
     }
 

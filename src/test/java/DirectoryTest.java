@@ -8,6 +8,7 @@ public final class DirectoryTest {
         close();
         blocksAreWrittenForWhatWasPut();
         leavesMoveWithoutNewBlocks();
+        everyNameKeepsItsKey();
         deepestTree();
         closeRefusesFortyFirstEpoch();
         closeRefusesTooManyBlocks();
@@ -58,6 +59,9 @@ public final class DirectoryTest {
             }
             int bits = 32 - Integer.numberOfLeadingZeros(greatest);
             Due.due("bits of digests for width " + asked[i], bits, width[i]);
+            for (int y = 0; y < 20; y++) {
+                Due.due("hash(1, 2, " + y + ")", x.hash(1, 2, y), byLongs(width[i], 1, 2, y));
+            }
         }
     }
 
@@ -172,6 +176,31 @@ public final class DirectoryTest {
         Due.due("no more blocks", x.size(1), 14);
         Due.due("the first epoch is as it was", x.prove(0, 0, 7, 0), 0);
         Due.due("and its keys are", x.prove(0, 0, 9, 0), 200);
+    }
+
+    private static void everyNameKeepsItsKey() {
+        EpochDirectory x = new EpochDirectory(31);
+        putAll(x, 5);
+        x.close();
+        x.put(33, 6);
+        x.close();
+        x.close();
+        Due.due("names in the map", x.size(3), 64);
+        for (int name = 0; name < 64; name++) {
+            Due.due("prove() of " + name, x.prove(0, 0, name, 2), name == 33 ? 6 : 5);
+            Due.due("check() of " + name, x.check(0, name, x.root(2)), name == 33 ? 6 : 5);
+        }
+        EpochDirectory y = new EpochDirectory(31);
+        y.put(0, 1);
+        y.close();
+        for (int name = 1; name < 9; name++) {
+            y.put(name, name + 1);
+            y.close();
+            for (int known = 0; known <= name; known++) {
+                Due.due("prove() of " + known, y.prove(0, 0, known, name), known + 1);
+                Due.due("check() of " + known, y.check(0, known, y.root(name)), known + 1);
+            }
+        }
     }
 
     /** Names 17 and 62 have the indices 0 and 1. */

@@ -6,6 +6,7 @@ public final class ExtractTest {
         innerNodesThatDiffer();
         differenceBelowTheRoot();
         leafOfAnotherName();
+        leavesThatDifferInTheNameAlone();
         leafAgainstNothingBelow();
         refusals();
         latestStays();
@@ -115,6 +116,18 @@ public final class ExtractTest {
         Due.due("extract()", x.extract(3, 0, 5, root), true);
         clash(x, 1, 12, key, 1, 5, 77);
         Due.due("asked for a third name both say 0", x.extract(3, 0, 1, root), false);
+    }
+
+    private static void leavesThatDifferInTheNameAlone() {
+        EpochDirectory x = new EpochDirectory(4);
+        int key = 1;
+        while (x.hash(1, 12, key) != x.hash(1, 5, key)) {
+            key++;
+        }
+        Due.fill(x, 0, 0, 12, key);
+        Due.fill(x, 1, 0, 5, key);
+        Due.due("extract()", x.extract(0, 1, 5, x.hash(1, 5, key)), true);
+        clash(x, 1, 12, key, 1, 5, key);
     }
 
     private static void leafAgainstNothingBelow() {
