@@ -26,7 +26,7 @@ public final class DirectoryTest {
     }
 
     private static void newObject() {
-        EpochDirectory x = new EpochDirectory(16);
+        Watched x = new Watched(16);
         for (int what = 0; what <= 6; what++) {
             Due.due("new size(" + what + ")", x.size(what), 0);
         }
@@ -52,7 +52,7 @@ public final class DirectoryTest {
         int[] asked = {Integer.MIN_VALUE, -1, 0, 3, 4, 5, 16, 30, 31, 32, 33, Integer.MAX_VALUE};
         int[] width = {4, 4, 4, 4, 4, 5, 16, 30, 31, 31, 31, 31};
         for (int i = 0; i < asked.length; i++) {
-            EpochDirectory x = new EpochDirectory(asked[i]);
+            Watched x = new Watched(asked[i]);
             int greatest = 0;
             for (int y = 0; y < 200; y++) {
                 greatest = Math.max(greatest, x.hash(1, 2, y));
@@ -66,13 +66,13 @@ public final class DirectoryTest {
     }
 
     private static void hash() {
-        EpochDirectory wide = new EpochDirectory(31);
+        Watched wide = new Watched(31);
         Due.due("hash(1, 2, 3)", wide.hash(1, 2, 3), 27959506);
         Due.due("hash(1, 5, 100)", wide.hash(1, 5, 100), 547156145);
         Due.due("hash(3, 0, 0)", wide.hash(3, 0, 0), 1231446293);
         Due.due("hash(0, 0, 0): 1 for 0", wide.hash(0, 0, 0), 1);
         Due.due("hash of negative ints", wide.hash(-1, -2, -3), byLongs(31, -1, -2, -3));
-        EpochDirectory narrow = new EpochDirectory(4);
+        Watched narrow = new Watched(4);
         Due.due("narrow hash(1, 3, 7)", narrow.hash(1, 3, 7), 6);
         Due.due("narrow hash(1, 3, 11)", narrow.hash(1, 3, 11), 5);
         for (int y = 0; y < 300; y++) {
@@ -95,7 +95,7 @@ public final class DirectoryTest {
     }
 
     private static void put() {
-        EpochDirectory x = new EpochDirectory(16);
+        Watched x = new Watched(16);
         Due.due("put(0, 1)", x.put(0, 1), 1);
         Due.due("put(63, 1000000)", x.put(63, 1000000), 2);
         Due.due("put(0, 2): the same name", x.put(0, 2), 2);
@@ -117,7 +117,7 @@ public final class DirectoryTest {
     }
 
     private static void close() {
-        EpochDirectory x = new EpochDirectory(16);
+        Watched x = new Watched(16);
         Due.due("close() of nothing", x.close(), 0);
         Due.due("an epoch of an empty map writes a checkpoint", x.size(1), 1);
         Due.block(x, 0, 3, 0, -1);
@@ -136,7 +136,7 @@ public final class DirectoryTest {
 
     /** Indices: 5 is 000100, 9 is 011000, 7 is 001110, 12 is 000111. */
     private static void blocksAreWrittenForWhatWasPut() {
-        EpochDirectory x = new EpochDirectory(31);
+        Watched x = new Watched(31);
         x.put(9, 200);
         x.put(5, 101);
         x.close();
@@ -156,7 +156,7 @@ public final class DirectoryTest {
     }
 
     private static void leavesMoveWithoutNewBlocks() {
-        EpochDirectory x = new EpochDirectory(31);
+        Watched x = new Watched(31);
         x.put(5, 101);
         x.put(9, 200);
         x.close();
@@ -179,7 +179,7 @@ public final class DirectoryTest {
     }
 
     private static void everyNameKeepsItsKey() {
-        EpochDirectory x = new EpochDirectory(31);
+        Watched x = new Watched(31);
         putAll(x, 5);
         x.close();
         x.put(33, 6);
@@ -190,7 +190,7 @@ public final class DirectoryTest {
             Due.due("prove() of " + name, x.prove(0, 0, name, 2), name == 33 ? 6 : 5);
             Due.due("check() of " + name, x.check(0, name, x.root(2)), name == 33 ? 6 : 5);
         }
-        EpochDirectory y = new EpochDirectory(31);
+        Watched y = new Watched(31);
         y.put(0, 1);
         y.close();
         for (int name = 1; name < 9; name++) {
@@ -205,7 +205,7 @@ public final class DirectoryTest {
 
     /** Names 17 and 62 have the indices 0 and 1. */
     private static void deepestTree() {
-        EpochDirectory x = new EpochDirectory(31);
+        Watched x = new Watched(31);
         x.put(62, 2);
         x.put(17, 1);
         x.close();
@@ -224,7 +224,7 @@ public final class DirectoryTest {
     }
 
     private static void closeRefusesFortyFirstEpoch() {
-        EpochDirectory x = new EpochDirectory(16);
+        Watched x = new Watched(16);
         for (int e = 0; e < 40; e++) {
             Due.due("close() " + e, x.close(), e);
         }
@@ -239,7 +239,7 @@ public final class DirectoryTest {
 
     /** All 64 names are 127 nodes: with its checkpoint an epoch of them is 128 blocks. */
     private static void closeRefusesTooManyBlocks() {
-        EpochDirectory x = new EpochDirectory(16);
+        Watched x = new Watched(16);
         putAll(x, 1);
         Due.due("close()", x.close(), 0);
         Due.due("blocks", x.size(1), 128);
@@ -254,7 +254,7 @@ public final class DirectoryTest {
         x.fuse(1);
         Due.due("the fuse does not help", x.close(), -2);
         Due.due("and still has not stopped", x.size(6), 0);
-        EpochDirectory y = fullTo256();
+        Watched y = fullTo256();
         for (int e = 2; e < 7; e++) {
             y.put(0, e);
             Due.due("close() of one name", y.close(), e);
@@ -268,8 +268,8 @@ public final class DirectoryTest {
         Due.due("blocks", y.size(1), 299);
     }
 
-    private static EpochDirectory fullTo256() {
-        EpochDirectory x = new EpochDirectory(16);
+    private static Watched fullTo256() {
+        Watched x = new Watched(16);
         putAll(x, 1);
         x.close();
         putAll(x, 2);
@@ -277,14 +277,14 @@ public final class DirectoryTest {
         return x;
     }
 
-    private static void putAll(EpochDirectory x, int key) {
+    private static void putAll(Watched x, int key) {
         for (int name = 0; name < 64; name++) {
             x.put(name, key);
         }
     }
 
     private static void refusedCloseKeepsFuse() {
-        EpochDirectory x = fullTo256();
+        Watched x = fullTo256();
         for (int e = 2; e < 7; e++) {
             x.put(0, e);
             x.close();
@@ -301,7 +301,7 @@ public final class DirectoryTest {
         Due.block(x, 299, 3, 10, 294);
         Due.due("block(300, 0)", x.block(300, 0), -2);
 
-        EpochDirectory y = new EpochDirectory(16);
+        Watched y = new Watched(16);
         putAll(y, 1);
         y.fuse(100);
         Due.due("a fuse of 100 stops 128 blocks", y.close(), -9);
@@ -310,7 +310,7 @@ public final class DirectoryTest {
     }
 
     private static void fuse() {
-        EpochDirectory x = new EpochDirectory(16);
+        Watched x = new Watched(16);
         Due.due("fuse(0)", x.fuse(0), false);
         Due.due("fuse(-1)", x.fuse(-1), false);
         Due.due("fuse(101)", x.fuse(101), false);
@@ -327,7 +327,7 @@ public final class DirectoryTest {
     }
 
     private static void fuseAtCheckpoint() {
-        EpochDirectory x = new EpochDirectory(16);
+        Watched x = new Watched(16);
         x.put(5, 100);
         x.fuse(2);
         Due.due("close() stops behind the checkpoint", x.close(), -9);
@@ -344,7 +344,7 @@ public final class DirectoryTest {
     }
 
     private static void fuseCountsOverSeveralClosings() {
-        EpochDirectory x = new EpochDirectory(16);
+        Watched x = new Watched(16);
         x.put(5, 100);
         x.fuse(5);
         Due.due("close() of 2 blocks", x.close(), 0);
@@ -357,7 +357,7 @@ public final class DirectoryTest {
     }
 
     private static void restart() {
-        EpochDirectory x = new EpochDirectory(16);
+        Watched x = new Watched(16);
         Due.due("restart() when it runs", x.restart(), -1);
         x.put(1, 10);
         x.close();
@@ -393,7 +393,7 @@ public final class DirectoryTest {
 
     /** Indices: 5 is 000100, 7 is 001110, 9 is 011000. */
     private static void cutBlocksAreNotTheLatest() {
-        EpochDirectory x = new EpochDirectory(31);
+        Watched x = new Watched(31);
         x.put(5, 1);
         x.put(7, 2);
         x.put(9, 3);
@@ -419,7 +419,7 @@ public final class DirectoryTest {
     }
 
     private static void roots() {
-        EpochDirectory x = new EpochDirectory(31);
+        Watched x = new Watched(31);
         x.put(5, 101);
         x.put(9, 200);
         x.close();
@@ -437,37 +437,35 @@ public final class DirectoryTest {
     }
 
     private static void heads() {
-        EpochDirectory x = new EpochDirectory(20);
+        Watched x = new Watched(20);
+        PlainDirectory plain = new PlainDirectory(20);
         int[] leaves = new int[40];
-        for (int e = 0; e < 40; e++) {
+        for (int e = 0; e < 40 && x.size(1) <= 285; e++) {
             x.put(e, e + 1);
             Due.due("close()", x.close(), e);
-            leaves[e] = x.hash(3, x.root(e), e);
-            Due.due("head(" + e + ")", x.head(e), row(x, leaves, 0, e + 1));
-            if (x.size(1) > 285) {
-                break;
-            }
+            leaves[e] = plain.hash(3, x.root(e), e);
+            Due.due("head(" + e + ")", x.head(e), row(plain, leaves, 0, e + 1));
         }
-        EpochDirectory y = new EpochDirectory(31);
+        Watched y = new Watched(20);
         for (int e = 0; e < 40; e++) {
             y.close();
-            leaves[e] = y.hash(3, 0, e);
-            Due.due("head(" + e + ") of empty maps", y.head(e), row(y, leaves, 0, e + 1));
+            leaves[e] = plain.hash(3, 0, e);
+            Due.due("head(" + e + ") of empty maps", y.head(e), row(plain, leaves, 0, e + 1));
         }
         Due.due("head(-1)", y.head(-1), -1);
         Due.due("head(40)", y.head(40), -1);
     }
 
-    static int row(EpochDirectory x, int[] leaves, int start, int end) {
+    private static int row(PlainDirectory plain, int[] leaves, int start, int end) {
         if (end - start == 1) {
             return leaves[start];
         }
-        int k = Integer.highestOneBit(end - start - 1);
-        return x.hash(4, row(x, leaves, start, start + k), row(x, leaves, start + k, end));
+        int middle = start + Integer.highestOneBit(end - start - 1);
+        return plain.hash(4, row(plain, leaves, start, middle), row(plain, leaves, middle, end));
     }
 
     private static void block() {
-        EpochDirectory x = new EpochDirectory(16);
+        Watched x = new Watched(16);
         x.put(3, 30);
         x.close();
         Due.block(x, 0, 1, 3, 30);
@@ -480,7 +478,7 @@ public final class DirectoryTest {
     }
 
     private static void size() {
-        EpochDirectory x = new EpochDirectory(16);
+        Watched x = new Watched(16);
         Due.due("size(-1)", x.size(-1), -1);
         Due.due("size(7)", x.size(7), -1);
         x.put(5, 1);

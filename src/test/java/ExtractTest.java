@@ -15,7 +15,7 @@ public final class ExtractTest {
 
     /** With width 4, hash(1, 3, 7) and hash(1, 3, 8) are both 6. */
     private static void leavesThatDiffer() {
-        EpochDirectory x = new EpochDirectory(4);
+        Watched x = new Watched(4);
         Due.fill(x, 0, 0, 3, 7);
         Due.fill(x, 1, 0, 3, 8);
         Due.due("extract()", x.extract(0, 1, 3, 6), true);
@@ -26,7 +26,7 @@ public final class ExtractTest {
         Due.due("clash(-1)", x.clash(-1), 0);
     }
 
-    private static void clash(EpochDirectory x, int... want) {
+    private static void clash(Watched x, int... want) {
         for (int i = 0; i < 6; i++) {
             Due.due("clash(" + i + ")", x.clash(i), want[i]);
         }
@@ -35,7 +35,7 @@ public final class ExtractTest {
         Due.due("the digests are one", one, other);
     }
 
-    private static int otherFor(EpochDirectory x, int left, int digest) {
+    private static int otherFor(Watched x, int left, int digest) {
         for (int other = 0; other < 100000; other++) {
             if (x.hash(2, left, other) == digest) {
                 return other;
@@ -46,7 +46,7 @@ public final class ExtractTest {
 
     /** Name 5 has the index 000100: its part is the first one. */
     private static void innerAgainstLeaf() {
-        EpochDirectory x = new EpochDirectory(8);
+        Watched x = new Watched(8);
         int root = x.hash(1, 5, 77);
         int other = otherFor(x, x.hash(1, 5, 78), root);
         Due.fill(x, 0, 0, 5, 77);
@@ -60,7 +60,7 @@ public final class ExtractTest {
     }
 
     private static void innerNodesThatDiffer() {
-        EpochDirectory x = new EpochDirectory(8);
+        Watched x = new Watched(8);
         int first = x.hash(1, 5, 77);
         int second = x.hash(1, 5, 78);
         int root = x.hash(2, first, 200);
@@ -76,7 +76,7 @@ public final class ExtractTest {
 
     /** Name 1 has the index 48, 110000. */
     private static void differenceBelowTheRoot() {
-        EpochDirectory x = new EpochDirectory(4);
+        Watched x = new Watched(4);
         int a = 1;
         int b = 2;
         while (x.hash(1, 1, a) != x.hash(1, 1, b)) {
@@ -103,7 +103,7 @@ public final class ExtractTest {
 
     /** Names 5 and 12 have the indices 000100 and 000111. */
     private static void leafOfAnotherName() {
-        EpochDirectory x = new EpochDirectory(4);
+        Watched x = new Watched(4);
         int key = 1;
         while (x.hash(1, 12, key) != x.hash(1, 5, 77)) {
             key++;
@@ -119,7 +119,7 @@ public final class ExtractTest {
     }
 
     private static void leavesThatDifferInTheNameAlone() {
-        EpochDirectory x = new EpochDirectory(4);
+        Watched x = new Watched(4);
         int key = 1;
         while (x.hash(1, 12, key) != x.hash(1, 5, key)) {
             key++;
@@ -131,7 +131,7 @@ public final class ExtractTest {
     }
 
     private static void leafAgainstNothingBelow() {
-        EpochDirectory x = new EpochDirectory(8);
+        Watched x = new Watched(8);
         int root = x.hash(1, 5, 77);
         int other = otherFor(x, 0, root);
         Due.fill(x, 0, 0, 5, 77);
@@ -142,7 +142,7 @@ public final class ExtractTest {
     }
 
     private static void refusals() {
-        EpochDirectory x = new EpochDirectory(4);
+        Watched x = new Watched(4);
         Due.fill(x, 0, 0, 3, 7);
         Due.fill(x, 1, 0, 3, 8);
         Due.due("another root", x.extract(0, 1, 3, 5), false);
@@ -166,7 +166,7 @@ public final class ExtractTest {
     }
 
     private static void latestStays() {
-        EpochDirectory x = new EpochDirectory(4);
+        Watched x = new Watched(4);
         Due.fill(x, 0, 0, 3, 7);
         Due.fill(x, 1, 0, 3, 8);
         x.extract(0, 1, 3, 6);

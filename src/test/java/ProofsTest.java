@@ -23,8 +23,8 @@ public final class ProofsTest {
     }
 
     /** Indices: 5 is 000100, 9 is 011000, 7 is 001110, 1 is 110000. */
-    private static EpochDirectory threeNames() {
-        EpochDirectory x = new EpochDirectory(31);
+    private static Watched threeNames() {
+        Watched x = new Watched(31);
         x.put(5, 101);
         x.put(9, 200);
         x.close();
@@ -34,7 +34,7 @@ public final class ProofsTest {
     }
 
     private static void lookupWords() {
-        EpochDirectory x = threeNames();
+        Watched x = threeNames();
         int five = x.hash(1, 5, 101);
         int nine = x.hash(1, 9, 200);
         int seven = x.hash(1, 7, 300);
@@ -53,7 +53,7 @@ public final class ProofsTest {
     }
 
     private static void lookupInAnEmptyMap() {
-        EpochDirectory x = new EpochDirectory(31);
+        Watched x = new Watched(31);
         x.close();
         Due.due("prove() in an empty map", x.prove(0, 0, 5, 0), 0);
         Due.words("it", x, 0, 0, -1, 0);
@@ -69,7 +69,7 @@ public final class ProofsTest {
 
     /** Names 17 and 62 have the indices 0 and 1. */
     private static void deepestLookup() {
-        EpochDirectory x = new EpochDirectory(31);
+        Watched x = new Watched(31);
         x.put(17, 1);
         x.put(62, 2);
         x.close();
@@ -82,7 +82,7 @@ public final class ProofsTest {
     }
 
     private static void historyWords() {
-        EpochDirectory x = new EpochDirectory(31);
+        Watched x = new Watched(31);
         int[] l = new int[7];
         for (int e = 0; e < 7; e++) {
             x.put(e, 10 + e);
@@ -114,7 +114,7 @@ public final class ProofsTest {
     }
 
     private static void refusedProofs() {
-        EpochDirectory x = threeNames();
+        Watched x = threeNames();
         x.prove(0, 0, 5, 0);
         int[][] wrong = {
             {-1, 0, 5, 0}, {4, 0, 5, 0}, {0, -1, 0, 0}, {0, 3, 0, 0}, {0, 0, -1, 0}, {0, 0, 64, 0},
@@ -136,7 +136,7 @@ public final class ProofsTest {
     }
 
     private static void word() {
-        EpochDirectory x = new EpochDirectory(31);
+        Watched x = new Watched(31);
         Due.fill(x, 3, 7, -2, 0);
         Due.words("a buffer", x, 3, 7, -2, 0);
         Due.due("word(3, 3)", x.word(3, 3), -2);
@@ -149,7 +149,7 @@ public final class ProofsTest {
     }
 
     private static void poke() {
-        EpochDirectory x = new EpochDirectory(31);
+        Watched x = new Watched(31);
         Due.due("poke(0, 1, 5) of an empty buffer", x.poke(0, 1, 5), false);
         Due.due("poke(0, -1, 5)", x.poke(0, -1, 5), false);
         for (int i = 0; i < 30; i++) {
@@ -175,7 +175,7 @@ public final class ProofsTest {
     }
 
     private static void trim() {
-        EpochDirectory x = new EpochDirectory(31);
+        Watched x = new Watched(31);
         Due.due("trim(0, 0) of an empty buffer", x.trim(0, 0), true);
         Due.due("trim(0, 1) of an empty buffer", x.trim(0, 1), false);
         Due.fill(x, 0, 1, 2, 3, 4);
@@ -193,7 +193,7 @@ public final class ProofsTest {
     }
 
     private static void check() {
-        EpochDirectory x = threeNames();
+        Watched x = threeNames();
         int root = x.root(1);
         x.prove(0, 0, 5, 1);
         Due.due("check()", x.check(0, 5, root), 101);
@@ -224,7 +224,7 @@ public final class ProofsTest {
     }
 
     private static void checkRefusesWrongForms() {
-        EpochDirectory x = new EpochDirectory(31);
+        Watched x = new Watched(31);
         int leaf = x.hash(1, 5, 100);
         Due.fill(x, 0, 0, 5, 100);
         Due.due("a leaf alone", x.check(0, 5, leaf), 100);
@@ -264,7 +264,7 @@ public final class ProofsTest {
 
     /** Names 17 and 62 have the indices 0 and 1: at depth 6 they no longer share a prefix. */
     private static void checkTakesAnyOtherDigests() {
-        EpochDirectory x = new EpochDirectory(31);
+        Watched x = new Watched(31);
         int digest = x.hash(1, 17, 9);
         int[] others = {Integer.MIN_VALUE, -1, 0, 5, 6};
         Due.fill(x, 0, 5, 17, 9, others[0], others[1], others[2], others[3], others[4]);
@@ -289,7 +289,7 @@ public final class ProofsTest {
     }
 
     private static void checkOfEveryName() {
-        EpochDirectory x = new EpochDirectory(31);
+        Watched x = new Watched(31);
         for (int name = 0; name < 64; name += 3) {
             x.put(name, name + 1);
         }
@@ -301,8 +301,8 @@ public final class ProofsTest {
         }
     }
 
-    private static EpochDirectory fortyEpochs() {
-        EpochDirectory x = new EpochDirectory(31);
+    private static Watched fortyEpochs() {
+        Watched x = new Watched(31);
         for (int e = 0; e < 40; e++) {
             x.put(5, e + 1);
             x.close();
@@ -311,30 +311,36 @@ public final class ProofsTest {
     }
 
     private static void everyInclusionAndConsistency() {
-        EpochDirectory x = fortyEpochs();
         for (int n = 0; n < 40; n++) {
             for (int e = 0; e <= n; e++) {
-                String of = "(" + e + ", " + n + ")";
-                x.prove(0, 1, e, n);
-                Due.due("included" + of, x.included(0, e, n, x.root(e), x.head(n)), true);
-                x.prove(1, 2, e, n);
-                Due.due("consistent" + of, x.consistent(1, e, n, x.head(e), x.head(n)), true);
-                int last = x.word(0, -1);
-                if (last > 0) {
-                    x.poke(0, last - 1, x.word(0, last - 1) ^ 1);
-                    Due.due("changed" + of, x.included(0, e, n, x.root(e), x.head(n)), false);
-                }
-                for (int i = 0; i < x.word(1, -1); i++) {
-                    x.poke(1, i, x.word(1, i) ^ 1);
-                    Due.due("changed" + of, x.consistent(1, e, n, x.head(e), x.head(n)), false);
-                    x.poke(1, i, x.word(1, i) ^ 1);
-                }
+                inclusionAndConsistency(fortyEpochs(), e, n);
             }
         }
     }
 
+    private static void inclusionAndConsistency(Watched x, int e, int n) {
+        String of = "(" + e + ", " + n + ")";
+        int root = x.root(e);
+        int old = x.head(e);
+        int head = x.head(n);
+        int words = x.prove(0, 1, e, n);
+        Due.due("included" + of, x.included(0, e, n, root, head), true);
+        for (int i = 0; i < words; i++) {
+            x.poke(0, i, x.word(0, i) ^ 1);
+            Due.due("changed" + of, x.included(0, e, n, root, head), false);
+            x.poke(0, i, x.word(0, i) ^ 1);
+        }
+        words = x.prove(1, 2, e, n);
+        Due.due("consistent" + of, x.consistent(1, e, n, old, head), true);
+        for (int i = 0; i < words; i++) {
+            x.poke(1, i, x.word(1, i) ^ 1);
+            Due.due("changed" + of, x.consistent(1, e, n, old, head), false);
+            x.poke(1, i, x.word(1, i) ^ 1);
+        }
+    }
+
     private static void includedRefuses() {
-        EpochDirectory x = fortyEpochs();
+        Watched x = fortyEpochs();
         x.prove(0, 1, 10, 20);
         int root = x.root(10);
         int head = x.head(20);
@@ -364,7 +370,7 @@ public final class ProofsTest {
     }
 
     /** The last leaf of a row of 39 to 43, with a proof made by hand: from 40 on it is refused. */
-    private static void tryLastOf(EpochDirectory x, int n) {
+    private static void tryLastOf(Watched x, int n) {
         int made = x.hash(3, 7, n);
         x.trim(0, 0);
         int length = Integer.bitCount(n);
@@ -376,7 +382,7 @@ public final class ProofsTest {
     }
 
     private static void consistentRefuses() {
-        EpochDirectory x = fortyEpochs();
+        Watched x = fortyEpochs();
         x.prove(0, 2, 10, 20);
         int old = x.head(10);
         int head = x.head(20);
@@ -405,8 +411,8 @@ public final class ProofsTest {
     }
 
     private static void checkersKnowNothingOfTheDirectory() {
-        EpochDirectory x = fortyEpochs();
-        EpochDirectory y = new EpochDirectory(31);
+        Watched x = fortyEpochs();
+        Watched y = new Watched(31);
         x.prove(0, 1, 13, 39);
         copy(x, y, 0);
         Due.due("included()", y.included(0, 13, 39, x.root(13), x.head(39)), true);
@@ -425,14 +431,14 @@ public final class ProofsTest {
         Due.due("follow()", y.follow(1, 39, x.head(39)), true);
     }
 
-    private static void copy(EpochDirectory from, EpochDirectory to, int b) {
+    private static void copy(Watched from, Watched to, int b) {
         for (int i = 0; i < from.word(b, -1); i++) {
             to.poke(b, i, from.word(b, i));
         }
     }
 
     private static void follow() {
-        EpochDirectory x = new EpochDirectory(31);
+        Watched x = new Watched(31);
         Due.due("follow() of 40", x.follow(0, 40, 1), false);
         Due.due("follow() of -1", x.follow(0, -1, 1), false);
         Due.due("it has seen none", x.seen(0), -1);
@@ -453,7 +459,7 @@ public final class ProofsTest {
     }
 
     private static void auditorFollowsAllEpochs() {
-        EpochDirectory x = fortyEpochs();
+        Watched x = fortyEpochs();
         int before = 0;
         Due.due("follow() of 0", x.follow(0, 0, x.head(0)), true);
         int[] epochs = {1, 2, 3, 6, 7, 12, 20, 21, 31, 32, 39};

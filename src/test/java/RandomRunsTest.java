@@ -6,17 +6,16 @@ import java.util.Random;
  */
 public final class RandomRunsTest {
     private static final int RUNS = 3000;
-    private static final int CALLS = 512;
     private static final int[] EDGES = {Integer.MIN_VALUE, -10, -2, -1, 0, 1, 2, 3, 4, 5, 6, 7, 29, 30,
         31, 39, 40, 41, 63, 64, 100, 101, 299, 300, 999999, 1000000, 1000001, Integer.MAX_VALUE};
 
     private final Random random;
-    private final EpochDirectory x;
+    private final Watched x;
     private final PlainDirectory y;
     private final String run;
     private final int manner;
-    private int calls = 0;
 
+    private static int fullRuns = 0;
     private static int fullByEpochs = 0;
     private static int fullByBlocks = 0;
     private static int stopsInClosing = 0;
@@ -33,7 +32,7 @@ public final class RandomRunsTest {
         int[] widths = {4, 4, 5, 6, 8, 16, 31, 31, -3, 40};
         int width = widths[random.nextInt(widths.length)];
         manner = random.nextInt(4);
-        x = new EpochDirectory(width);
+        x = new Watched(width);
         y = new PlainDirectory(width);
         run = "run " + seed + " (width " + width + ") ";
     }
@@ -42,6 +41,7 @@ public final class RandomRunsTest {
         for (int seed = 0; seed < RUNS; seed++) {
             new RandomRunsTest(seed).go();
         }
+        Due.due("runs of all calls that an object is used for", fullRuns, RUNS);
         reached("FULL by epochs", fullByEpochs);
         reached("FULL by blocks", fullByBlocks);
         reached("stops in closing", stopsInClosing);
@@ -61,15 +61,19 @@ public final class RandomRunsTest {
         Due.due("enough of: " + what, count >= 20, true);
     }
 
+    /** The program ends the run in the midst of a step, by the call behind its last one. */
     private void go() {
-        while (calls < CALLS) {
-            step();
+        try {
+            for (int steps = 0; steps < 10 * Watched.MOST_CALLS; steps++) {
+                step();
+            }
+        } catch (Watched.TooManyCalls ended) {
+            fullRuns++;
         }
     }
 
     private void same(String call, long got, long want) {
-        calls++;
-        Due.due(run + "call " + calls + ": " + call, got, want);
+        Due.due(run + "call " + x.calls() + ": " + call, got, want);
     }
 
     private void same(String call, boolean got, boolean want) {
@@ -306,7 +310,6 @@ public final class RandomRunsTest {
         for (int i = 0; i < 3 + d; i++) {
             x.poke(b, i, y.word(b, i));
         }
-        calls += 4 + d;
         return anyRootOf(b, name);
     }
 
