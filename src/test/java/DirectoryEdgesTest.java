@@ -305,6 +305,7 @@ public final class DirectoryEdgesTest {
         deepestTreeOfTwoNames();
         leafFromAnotherPrefix();
         zeroPartComesFirst();
+        everyOtherNodeOfAFullMap();
     }
 
     private static void fortiethAndFortyFirstEpoch() {
@@ -545,6 +546,24 @@ public final class DirectoryEdgesTest {
         Due.block(x, 6, 3, 0, 5);
     }
 
+    /** Of 127 nodes only those above the one name are written anew: the others keep their blocks. */
+    private static void everyOtherNodeOfAFullMap() {
+        Due.sentence("the others have blocks already");
+        for (int name : new int[] {17, 36, 33, 0}) {
+            Watched x = new Watched(31);
+            Made.putAll(x, 5);
+            x.close();
+            x.put(name, 6);
+            x.close();
+            Due.due("blocks", x.size(1), 136);
+            for (int other = 0; other < 64; other++) {
+                int key = other == name ? 6 : 5;
+                Due.due("prove() of " + other, x.prove(0, 0, other, 1), key);
+                Due.due("check() of " + other, x.check(0, other, x.root(1)), key);
+            }
+        }
+    }
+
     private static void fuse() {
         fuseOutsideOneToHundred();
         fuseOfHundred();
@@ -745,6 +764,7 @@ public final class DirectoryEdgesTest {
         putIsLostByTheStop();
         putIsLostByTheStopBehindTheCheckpoint();
         cutBlocksAreNoLatestOnes();
+        cutBlocksLeaveNoTrace();
         restartKeepsAllElse();
     }
 
@@ -839,6 +859,30 @@ public final class DirectoryEdgesTest {
         x.put(50, 40);
         x.close();
         Due.due("key of 5, whose leaf went down", x.prove(0, 0, 5, 2), 1);
+    }
+
+    /** The new checkpoint stands where a block was cut off, whatever that was. */
+    private static void cutBlocksLeaveNoTrace() {
+        Due.sentence("the blocks behind the last checkpoint are cut off");
+        for (int k = 1; k <= 6; k++) {
+            for (int name : new int[] {5, 7, 9, 1}) {
+                Watched x = new Watched(31);
+                Made.putThree(x, 1);
+                x.close();
+                Made.putThree(x, 11);
+                x.fuse(k);
+                x.close();
+                x.restart();
+                Due.due("a checkpoint alone", x.close(), 1);
+                Due.block(x, 7, 3, 1, 5);
+                x.put(name, 30);
+                Due.due("close()", x.close(), 2);
+                Due.due("key of 5", x.prove(0, 0, 5, 2), name == 5 ? 30 : 1);
+                Due.due("key of 7", x.prove(0, 0, 7, 2), name == 7 ? 30 : 2);
+                Due.due("key of 9", x.prove(0, 0, 9, 2), name == 9 ? 30 : 3);
+                Due.due("it is accepted", x.check(0, 9, x.root(2)), name == 9 ? 30 : 3);
+            }
+        }
     }
 
     private static void restartKeepsAllElse() {

@@ -19,6 +19,9 @@ public final class ExtractEdgesTest {
         partsThatDifferAtEachPrefix();
         nothingBelowEachPrefix();
         firstDifferenceOfSeveral();
+        differenceInTheFirstIntAlone();
+        differenceInTheSecondIntAlone();
+        differenceInTheThirdIntAlone();
         firstOfTheTwoNotAccepted();
         secondOfTheTwoNotAccepted();
         bothSayTheSameKey();
@@ -159,6 +162,51 @@ public final class ExtractEdgesTest {
         x.poke(1, 7, 77);
         Due.due("check()", x.check(1, NAME, DIGESTS[0]), KEY + 1);
         bothWays(x, honest(1), inner(1, below, part));
+    }
+
+    /** A leaf (1, name, key) and an inner node (2, name, key), whose first part has such a digest. */
+    private static void differenceInTheFirstIntAlone() {
+        Due.sentence("The first two inputs that differ are taken out");
+        Watched x = new Watched(WIDTH);
+        int key = 1;
+        while (PLAIN.hash(1, NAME, key) != PLAIN.hash(2, NAME, key)) {
+            key++;
+        }
+        Due.fill(x, 0, 0, NAME, key);
+        int below = 1;
+        while (below == key || PLAIN.hash(1, NAME, below) != NAME) {
+            below++;
+        }
+        Due.fill(x, 1, 1, NAME, below, key);
+        int root = PLAIN.hash(1, NAME, key);
+        Due.due("check() of the leaf", x.check(0, NAME, root), key);
+        Due.due("check() of the inner node", x.check(1, NAME, root), below);
+        Due.due("extract()", x.extract(0, 1, NAME, root), true);
+        clash(x, new int[] {1, NAME, key}, new int[] {2, NAME, key});
+    }
+
+    private static void differenceInTheSecondIntAlone() {
+        Due.sentence("The first two inputs that differ are taken out");
+        Watched x = new Watched(WIDTH);
+        int key = 1;
+        while (PLAIN.hash(1, NAME, key) != PLAIN.hash(1, 28, key)) {
+            key++;
+        }
+        Due.fill(x, 0, 0, NAME, key);
+        Due.fill(x, 1, 0, 28, key);
+        Due.due("extract()", x.extract(0, 1, NAME, PLAIN.hash(1, NAME, key)), true);
+        clash(x, new int[] {1, NAME, key}, new int[] {1, 28, key});
+    }
+
+    /** At prefix 0 the digest of the part gone to is the same, and that of the other part is not. */
+    private static void differenceInTheThirdIntAlone() {
+        Due.sentence("The first two inputs that differ are taken out");
+        Watched x = withHonest();
+        int key = otherKey(NAME, DIGESTS[6]);
+        int part = otherPart(0, DIGESTS[1]);
+        forge(x, 6, NAME, key, 0, part);
+        Due.due("check()", x.check(1, NAME, DIGESTS[0]), key);
+        bothWays(x, honest(0), new int[] {2, DIGESTS[1], part});
     }
 
     private static Watched withTwoLeaves() {
