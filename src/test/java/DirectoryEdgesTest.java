@@ -296,6 +296,7 @@ public final class DirectoryEdgesTest {
         moreThanThreeHundredBlocks();
         checkpointCountsAmongThreeHundred();
         fullComesBeforeTheFuse();
+        fuseWhereThereIsRoom();
         downComesBeforeFull();
         closeWhenStopped();
         closeOfAnEmptyMap();
@@ -381,22 +382,47 @@ public final class DirectoryEdgesTest {
         Due.due("blocks", x.size(1), 293);
     }
 
+    /**
+     * The sentence names no fuse: also where the machine would have stopped before the 301st block,
+     * there would be more than 300. Here the 8th block would be the 300th, and the 9th is one too many.
+     */
     private static void fullComesBeforeTheFuse() {
-        Due.sentence("A call that is refused, or answers false, changes nothing");
-        Watched x = Made.blocks292();
-        x.put(17, 9);
-        x.put(62, 9);
-        x.fuse(1);
-        Due.due("close()", x.close(), -2);
-        Due.due("blocks", x.size(1), 292);
-        Due.due("names put", x.size(2), 2);
-        Due.due("stopped", x.size(6), 0);
-        Due.due("restart()", x.restart(), -1);
-        Watched y = Made.epochs(16, 40);
-        y.fuse(1);
-        Due.due("close() with 40 epochs", y.close(), -2);
-        Due.due("blocks", y.size(1), 80);
-        Due.due("stopped", y.size(6), 0);
+        Due.sentence("refused with FULL when there are 40, or would be more than 300 blocks");
+        for (int k : new int[] {1, 2, 7, 8, 9, 10, 100}) {
+            Watched x = Made.blocks292();
+            x.put(17, 9);
+            x.put(62, 9);
+            x.fuse(k);
+            refusedForGood(x, 292, 2);
+            Watched y = Made.epochs(16, 40);
+            y.put(5, 9);
+            y.fuse(k);
+            refusedForGood(y, 80, 1);
+        }
+    }
+
+    private static void refusedForGood(Watched x, int blocks, int names) {
+        for (int i = 0; i < 3; i++) {
+            Due.due("close()", x.close(), -2);
+            Due.due("blocks", x.size(1), blocks);
+            Due.due("names put", x.size(2), names);
+            Due.due("stopped", x.size(6), 0);
+            Due.due("restart()", x.restart(), -1);
+        }
+    }
+
+    /** Just 300 blocks are not too many, so here the fuse is what tells. */
+    private static void fuseWhereThereIsRoom() {
+        Due.sentence("DOWN (also when the machine stops with it)");
+        for (int k = 1; k <= 9; k++) {
+            Watched x = Made.blocks292();
+            x.put(0, 9);
+            x.fuse(k);
+            Due.due("close() with fuse " + k, x.close(), k <= 8 ? -9 : 6);
+            Due.due("blocks", x.size(1), k <= 8 ? 292 + k : 300);
+            Due.due("epochs", x.size(0), k < 8 ? 6 : 7);
+            Due.due("restart()", x.restart(), k < 8 ? k : k == 8 ? 0 : -1);
+        }
     }
 
     private static void downComesBeforeFull() {
